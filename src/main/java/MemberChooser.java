@@ -78,9 +78,6 @@ public final class MemberChooser {
     }
 
     public int meant(int type, int name, int i) {
-        if (!types.isTold(type) || !isName(name)) {
-            return NONE;
-        }
         return chooser.meantAt(type, name, i);
     }
 
@@ -290,7 +287,7 @@ public final class MemberChooser {
 
         /**
          * Writes to line, as MEANT wants them, the type and all classes and faces above it, and
-         * answers how many they are.
+         * answers how many they are (0 if there is no such class or face).
          */
         int writeLine(int type, int[] line) {
             int length = 0;

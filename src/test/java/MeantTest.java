@@ -8,6 +8,8 @@ public final class MeantTest {
         atAFace();
         wrongOnes();
         longChains();
+        manyWaysToTheSameFaces();
+        allFacesAboveOneClass();
         Checks.end();
     }
 
@@ -122,6 +124,46 @@ public final class MeantTest {
         Checks.due(0, "meant(8, 0, 0)", () -> x.meant(8, 0, 0));
         Checks.dueCount(x, 0, 2);
         Checks.dueCount(x, 0, 3);
+    }
+
+    private static void allFacesAboveOneClass() {
+        MemberChooser x = new MemberChooser();
+        x.type(-1);
+        int[] want = new int[23];
+        for (int i = 0; i < 23; i++) {
+            x.face();
+            Checks.fixed(x, 9 + i, 0, 9 + i);
+            want[22 - i] = i;
+        }
+        for (int face = 31; face >= 9; face--) {
+            x.join(8, face);
+        }
+        Checks.dueMeant(x, 8, 0, want);
+    }
+
+    /** Twelve layers of two faces, each with both of the next layer above it: 2048 ways up. */
+    private static void manyWaysToTheSameFaces() {
+        MemberChooser x = new MemberChooser();
+        for (int i = 0; i < 24; i++) {
+            x.face();
+            Checks.fixed(x, 8 + i, 0, 8 + i);
+        }
+        for (int i = 0; i < 22; i++) {
+            int next = 8 + (i / 2 + 1) * 2;
+            x.join(8 + i, next);
+            x.join(8 + i, next + 1);
+        }
+        // The first of each layer up to the top, then the second ones back down.
+        int[] want = new int[23];
+        for (int layer = 0; layer < 12; layer++) {
+            want[layer] = layer * 2;
+        }
+        want[12] = 23;
+        for (int i = 13; i < 23; i++) {
+            want[i] = 21 - (i - 13) * 2;
+        }
+        Checks.dueMeant(x, 8, 0, want);
+        Checks.due(24, "above(8, 3)", () -> x.above(8, 3));
     }
 
     private static void longChains() {

@@ -105,5 +105,11 @@ public final class MemberTest {
         Checks.dueCall(x, 0, 9, 0);
         Checks.dueCall(x, Checks.UNFIT, 8, 0);
         Checks.dueCount(x, 6, 3);
+        // Now those of the name stand at the end.
+        dueMember(x, 1, 8, 0, 1, Checks.row(0), true);
+        Checks.dueCount(x, 2, 2);
+        Checks.dueCall(x, Checks.UNFIT, 8, 1);
+        Checks.dueCall(x, Checks.UNFIT, 9, 1, Checks.TEXT);
+        Checks.dueCount(x, 4, 4);
     }
 }
