@@ -24,7 +24,7 @@ public final class AboveTest {
             dueAll(x, none, -1, -1, -1, -1);
         }
         for (int what : new int[] {-1, Integer.MIN_VALUE, Integer.MAX_VALUE}) {
-            dueAbove(x, -1, 10, what);
+            Checks.dueAbove(x, -1, 10, what);
         }
         allAboveOne();
         Checks.end();
@@ -39,13 +39,9 @@ public final class AboveTest {
         dueAll(x, 31, 0, 30, 0, 25);
     }
 
-    private static void dueAbove(MemberChooser x, int want, int type, int what) {
-        Checks.due(want, "above(" + type + ", " + what + ")", () -> x.above(type, what));
-    }
-
     private static void dueAll(MemberChooser x, int type, int... want) {
         for (int what = 0; what < 6; what++) {
-            dueAbove(x, what < want.length ? want[what] : -1, type, what);
+            Checks.dueAbove(x, what < want.length ? want[what] : -1, type, what);
         }
     }
 }

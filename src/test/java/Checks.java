@@ -21,6 +21,7 @@ final class Checks {
 
     private static int wrong = 0;
     private static int seen = 0;
+    private static String sentence = "";
 
     private Checks() {
     }
@@ -30,8 +31,19 @@ final class Checks {
         String got = answerOf(call);
         if (!got.equals(String.valueOf(want))) {
             wrong++;
-            System.out.println(told + " answered " + got + ", due is " + want);
+            System.out.println(sentence + told + " answered " + got + ", due is " + want);
         }
+    }
+
+    /** The test of one sentence; one that breaks off or asks for nothing proves nothing. */
+    static void sentence(String words, Runnable test) {
+        int before = seen;
+        sentence = "\"" + words + "\": ";
+        due("ran", "the sentence's test", () -> {
+            test.run();
+            return seen > before + 1 ? "ran" : "asked for nothing";
+        });
+        sentence = "";
     }
 
     static String answerOf(Call call) {
@@ -62,6 +74,37 @@ final class Checks {
     static void dueCall(MemberChooser x, Object want, int type, int name, int... values) {
         String told = "call(" + type + ", " + name + ", " + java.util.Arrays.toString(values) + ")";
         due(want, told, () -> x.call(type, name, values.length, row(values)));
+    }
+
+    static void dueType(MemberChooser x, Object want, int above) {
+        due(want, "type(" + above + ")", () -> x.type(above));
+    }
+
+    static void dueFace(MemberChooser x, Object want) {
+        due(want, "face()", x::face);
+    }
+
+    static void dueJoin(MemberChooser x, boolean want, int type, int face) {
+        due(want, "join(" + type + ", " + face + ")", () -> x.join(type, face));
+    }
+
+    static void dueMember(MemberChooser x, Object want, int owner, int name, int n, long types,
+            boolean variable) {
+        due(want,
+                "member(" + owner + ", " + name + ", " + n + ", " + types + ", " + variable + ")",
+                () -> x.member(owner, name, n, types, variable));
+    }
+
+    static void dueSubtype(MemberChooser x, boolean want, int type, int of) {
+        due(want, "subtype(" + type + ", " + of + ")", () -> x.subtype(type, of));
+    }
+
+    static void dueLook(MemberChooser x, int want, int member, int what) {
+        due(want, "look(" + member + ", " + what + ")", () -> x.look(member, what));
+    }
+
+    static void dueAbove(MemberChooser x, int want, int type, int what) {
+        due(want, "above(" + type + ", " + what + ")", () -> x.above(type, what));
     }
 
     static void dueCount(MemberChooser x, int want, int what) {

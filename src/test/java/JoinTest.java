@@ -9,25 +9,21 @@ public final class JoinTest {
         Checks.end();
     }
 
-    private static void dueJoin(MemberChooser x, boolean want, int type, int face) {
-        Checks.due(want, "join(" + type + ", " + face + ")", () -> x.join(type, face));
-    }
-
     private static void truths() {
         MemberChooser x = new MemberChooser();
         x.type(-1);
         x.face();
         x.face();
         x.face();
-        dueJoin(x, true, 8, 9);
-        dueJoin(x, false, 8, 9);
-        dueJoin(x, true, 9, 10);
-        dueJoin(x, true, 10, 11);
-        dueJoin(x, false, 10, 10);
-        dueJoin(x, false, 10, 9);
-        dueJoin(x, false, 11, 9);
-        dueJoin(x, false, 11, 10);
-        dueJoin(x, false, 9, 8);
+        Checks.dueJoin(x, true, 8, 9);
+        Checks.dueJoin(x, false, 8, 9);
+        Checks.dueJoin(x, true, 9, 10);
+        Checks.dueJoin(x, true, 10, 11);
+        Checks.dueJoin(x, false, 10, 10);
+        Checks.dueJoin(x, false, 10, 9);
+        Checks.dueJoin(x, false, 11, 9);
+        Checks.dueJoin(x, false, 11, 10);
+        Checks.dueJoin(x, false, 9, 8);
         Checks.due(true, "subtype(8, 11)", () -> x.subtype(8, 11));
         Checks.due(false, "subtype(11, 8)", () -> x.subtype(11, 8));
         Checks.due(1, "above(8, 2)", () -> x.above(8, 2));
@@ -41,13 +37,13 @@ public final class JoinTest {
         x.face();
         for (int none : new int[] {-1, -2, 0, 3, 7, 11, 32, 255, Integer.MIN_VALUE,
                 Integer.MAX_VALUE}) {
-            dueJoin(x, false, none, 10);
-            dueJoin(x, false, 8, none);
+            Checks.dueJoin(x, false, none, 10);
+            Checks.dueJoin(x, false, 8, none);
         }
-        dueJoin(x, false, 8, 8);
-        dueJoin(x, false, 8, 9);
-        dueJoin(x, false, 9, 8);
-        dueJoin(x, false, 10, 8);
+        Checks.dueJoin(x, false, 8, 8);
+        Checks.dueJoin(x, false, 8, 9);
+        Checks.dueJoin(x, false, 9, 8);
+        Checks.dueJoin(x, false, 10, 8);
         Checks.due(0, "above(8, 2)", () -> x.above(8, 2));
     }
 
@@ -58,11 +54,11 @@ public final class JoinTest {
         x.type(8);
         x.face();
         x.face();
-        dueJoin(x, true, 8, 10);
-        dueJoin(x, true, 9, 10);
-        dueJoin(x, true, 10, 11);
-        dueJoin(x, true, 9, 11);
-        dueJoin(x, false, 9, 11);
+        Checks.dueJoin(x, true, 8, 10);
+        Checks.dueJoin(x, true, 9, 10);
+        Checks.dueJoin(x, true, 10, 11);
+        Checks.dueJoin(x, true, 9, 11);
+        Checks.dueJoin(x, false, 9, 11);
         Checks.due(2, "above(9, 2)", () -> x.above(9, 2));
     }
 
@@ -71,10 +67,10 @@ public final class JoinTest {
         x.type(-1);
         for (int face = 9; face <= 31; face++) {
             x.face();
-            dueJoin(x, true, 8, face);
+            Checks.dueJoin(x, true, 8, face);
         }
         for (int face = 9; face <= 31; face++) {
-            dueJoin(x, false, 8, face);
+            Checks.dueJoin(x, false, 8, face);
         }
         Checks.due(23, "above(8, 2)", () -> x.above(8, 2));
         Checks.due(25, "above(8, 3)", () -> x.above(8, 3));

@@ -12,22 +12,18 @@ public final class LookTest {
         dueAll(x, 2, 8, 0, 2, 0, 2, 3);
         for (int none : new int[] {-1, 3, 80, Integer.MIN_VALUE, Integer.MAX_VALUE}) {
             for (int what = 0; what < 9; what++) {
-                dueLook(x, -1, none, what);
+                Checks.dueLook(x, -1, none, what);
             }
         }
         for (int what : new int[] {-1, -4, Integer.MIN_VALUE, Integer.MAX_VALUE}) {
-            dueLook(x, -1, 1, what);
+            Checks.dueLook(x, -1, 1, what);
         }
         Checks.end();
     }
 
-    private static void dueLook(MemberChooser x, int want, int member, int what) {
-        Checks.due(want, "look(" + member + ", " + what + ")", () -> x.look(member, what));
-    }
-
     private static void dueAll(MemberChooser x, int member, int... want) {
         for (int what = 0; what < 12; what++) {
-            dueLook(x, what < want.length ? want[what] : -1, member, what);
+            Checks.dueLook(x, what < want.length ? want[what] : -1, member, what);
         }
     }
 }

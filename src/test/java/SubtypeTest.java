@@ -7,24 +7,20 @@ public final class SubtypeTest {
         Checks.end();
     }
 
-    private static void dueSubtype(MemberChooser x, boolean want, int type, int of) {
-        Checks.due(want, "subtype(" + type + ", " + of + ")", () -> x.subtype(type, of));
-    }
-
     private static void builtIn() {
         MemberChooser x = new MemberChooser();
         for (int type = 0; type < 8; type++) {
             for (int of = 0; of < 8; of++) {
                 boolean want = type == of || (of == Checks.ANY && type > Checks.BOOL)
                         || (type == Checks.INT && of == Checks.LONG);
-                dueSubtype(x, want, type, of);
+                Checks.dueSubtype(x, want, type, of);
             }
         }
         for (int none : new int[] {-1, 8, 31, 32, 39, 255, Integer.MIN_VALUE,
                 Integer.MAX_VALUE}) {
-            dueSubtype(x, false, none, none);
-            dueSubtype(x, false, none, Checks.ANY);
-            dueSubtype(x, false, Checks.ANY, none);
+            Checks.dueSubtype(x, false, none, none);
+            Checks.dueSubtype(x, false, none, Checks.ANY);
+            Checks.dueSubtype(x, false, Checks.ANY, none);
         }
     }
 
@@ -45,10 +41,10 @@ public final class SubtypeTest {
         for (int type = 8; type <= 13; type++) {
             for (int of = 0; of <= 14; of++) {
                 boolean want = (" " + above[type - 8] + " ").contains(" " + of + " ");
-                dueSubtype(x, want, type, of);
+                Checks.dueSubtype(x, want, type, of);
             }
-            dueSubtype(x, false, Checks.ANY, type);
-            dueSubtype(x, false, Checks.TEXT, type);
+            Checks.dueSubtype(x, false, Checks.ANY, type);
+            Checks.dueSubtype(x, false, Checks.TEXT, type);
         }
     }
 
@@ -63,11 +59,11 @@ public final class SubtypeTest {
         x.join(10, 8);
         x.join(8, 9);
         x.join(9, 12);
-        dueSubtype(x, true, 11, 9);
-        dueSubtype(x, true, 11, 12);
-        dueSubtype(x, true, 10, 12);
-        dueSubtype(x, true, 8, 12);
-        dueSubtype(x, false, 12, 8);
+        Checks.dueSubtype(x, true, 11, 9);
+        Checks.dueSubtype(x, true, 11, 12);
+        Checks.dueSubtype(x, true, 10, 12);
+        Checks.dueSubtype(x, true, 8, 12);
+        Checks.dueSubtype(x, false, 12, 8);
         Checks.due(6, "above(11, 3)", () -> x.above(11, 3));
 
         MemberChooser full = new MemberChooser();
@@ -76,9 +72,9 @@ public final class SubtypeTest {
             full.face();
             full.join(type - 1, type);
         }
-        dueSubtype(full, true, 8, 31);
-        dueSubtype(full, false, 31, 8);
-        dueSubtype(full, true, 31, Checks.ANY);
-        dueSubtype(full, false, 31, 0);
+        Checks.dueSubtype(full, true, 8, 31);
+        Checks.dueSubtype(full, false, 31, 8);
+        Checks.dueSubtype(full, true, 31, Checks.ANY);
+        Checks.dueSubtype(full, false, 31, 0);
     }
 }
